@@ -60,7 +60,7 @@ public final class MoonRooms {
             case 1:
                 return now.seenIn(now.night) >> cell & 1;
             case 2:
-                return now.rentOf(cell);
+                return now.rentTogether(1 << cell);
             case 3:
                 return now.holdersOf(1 << cell);
             default:
@@ -380,7 +380,7 @@ public final class MoonRooms {
         int dearest = -1;
         int cell = -1;
         for (int i = 0; i < CELLS; i++) {
-            int rent = now.rentOf(i);
+            int rent = now.rentTogether(1 << i);
             if ((held >> i & 1) == 0 && rent <= v && rent > dearest) {
                 dearest = rent;
                 cell = i;
@@ -624,7 +624,7 @@ public final class MoonRooms {
         }
 
         int get(int i) {
-            return has(i) ? numbers[i] : 0;
+            return i >= 0 && i < size && i < numbers.length ? numbers[i] : 0;
         }
 
         void set(int i, int v) {
@@ -742,7 +742,7 @@ public final class MoonRooms {
                 case POET:
                     return v / 2;
                 case SHARER:
-                    return sharers < 0 ? v / 2 : v / 2 / (1 + sharers);
+                    return v / 2 / Math.max(1, 1 + sharers);
                 case WIDOWER:
                 case GHOST:
                     return v + m;
@@ -868,16 +868,11 @@ public final class MoonRooms {
             return evicted;
         }
 
-        int rentOf(int cell) {
-            int holders = Integer.bitCount(holdersOf(1 << cell));
-            return rents.rule(cell / 8, cell % 8, holders);
-        }
-
         int rentTogether(int cells) {
             int rent = 0;
             for (int i = 0; i < CELLS; i++) {
                 if ((cells >> i & 1) != 0) {
-                    rent += rentOf(i);
+                    rent += rents.rule(i / 8, i % 8, Integer.bitCount(holdersOf(1 << i)));
                 }
             }
             return rent;
