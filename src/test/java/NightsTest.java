@@ -118,7 +118,14 @@ public final class NightsTest {
     due.is("phase", x.count(2), 9900 % 16);
     due.is("nights(100)", x.nights(100), Due.STATE);
     due.is("nights(101)", x.nights(101), Due.BEYOND);
-    due.is("nights(99)", x.nights(99), 0);
+    due.is("nights(98)", x.nights(98), 0);
+    x.image();
+    due.is("loose(2)", x.loose(2), Due.STATE);
+    due.is("loose(1)", x.loose(1), 0);
+    due.is("night", x.count(1), 9999);
+    x.restore();
+    due.is("nights(2)", x.nights(2), Due.STATE);
+    due.is("nights(1)", x.nights(1), 0);
     due.is("night", x.count(1), 9999);
     due.is("nights(1)", x.nights(1), Due.STATE);
     due.is("loose(1)", x.loose(1), Due.STATE);
@@ -149,6 +156,12 @@ public final class NightsTest {
     due.is("without tenants one draw a night", x.count(10), z);
     due.is("weather", x.count(3), weather);
     due.is("night", x.count(1), 2);
+    x.tenant(50);
+    x.loose(1);
+    draw();
+    draw();
+    due.is("with one it takes a cell", x.ofTenant(0, 2), 1 << draw() % 24);
+    due.is("by three draws a night", x.count(10), z);
     MoonRooms y = new MoonRooms();
     for (int i = 0; i < 3; i++) {
       y.tenant(50);

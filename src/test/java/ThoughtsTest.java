@@ -80,6 +80,11 @@ public final class ThoughtsTest {
     due.is("owes nothing", x.stays(0), Due.NONE);
     x.lease(0, 1);
     due.is("to the first quarter", x.stays(0), 4);
+    x.become(0, 50);
+    x.purse(0, 24);
+    due.is("behind 100", x.stays(0), 100);
+    x.become(0, 0);
+    x.purse(0, 0);
     x.nights(1);
     due.is("one less", x.stays(0), 3);
     x.become(0, 50);
