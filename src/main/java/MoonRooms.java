@@ -787,8 +787,12 @@ public final class MoonRooms {
             weather = other.weather;
             z = other.z;
             tenants = other.tenants;
-            for (int i = 0; i < tenants && i < all.length && i < other.all.length; i++) {
-                all[i].copyFrom(other.all[i]);
+            for (int i = 0; i < tenants; i++) {
+                Tenant mine = find(i);
+                Tenant its = other.find(i);
+                if (mine != null && its != null) {
+                    mine.copyFrom(its);
+                }
             }
             tape.copyFrom(other.tape);
             waiting.copyFrom(other.waiting);
@@ -802,10 +806,10 @@ public final class MoonRooms {
 
         /** The new one's number; -1 if there is no room. */
         int takeIn(int kind, int m) {
-            if (tenants < 0 || tenants >= all.length) {
+            Tenant t = tenants < 0 || tenants >= all.length ? null : all[tenants];
+            if (t == null) {
                 return -1;
             }
-            Tenant t = all[tenants];
             t.kind = kind;
             t.m = m;
             // an image restored may have left an older tenant here
@@ -1012,7 +1016,7 @@ public final class MoonRooms {
                     stack[top - 1] = join(-step, stack[top - 1], stack[top]);
                 }
             }
-            return stack[0];
+            return top < 1 ? 0 : stack[top - 1];
         }
 
         private static int valueOf(int step, int a, int b, int c) {
