@@ -9,8 +9,11 @@ public final class TenantsTest {
     weather();
     takingIn();
     looks();
+    looksAtEdges();
     owes();
+    owesCut();
     sharers();
+    sharersCut();
     become();
     as();
     lease();
@@ -55,6 +58,13 @@ public final class TenantsTest {
     due.is("rent by row, column, holders", x.ofCell(23, 2), 69);
     due.is("cell 24", x.ofCell(24, 0), Due.BEYOND);
     due.is("cell -1", x.ofCell(-1, 0), Due.BEYOND);
+    Due.text(x, 0, "w-5");
+    x.weather(4);
+    due.is("CLOUDY below 0", x.ofCell(21, 1), 0);
+    x.weather(5);
+    due.is("not CLOUDY by 0", x.ofCell(21, 1), 1);
+    x.weather(6);
+    due.is("CLOUDY above 0", x.ofCell(21, 1), 0);
     due.is("what 4", x.ofCell(0, 4), Due.BEYOND);
     due.is("what -1", x.ofCell(0, -1), Due.BEYOND);
   }
@@ -126,6 +136,112 @@ public final class TenantsTest {
     due.is("what is seen", x.ofTenant(2, 6), 128);
     x.lease(2, 255);
     due.is("what is seen of more", x.ofTenant(2, 6), 128 + 64 + 32);
+  }
+
+  private static int looksIn(int km, int lease, int night, String clouds) {
+    MoonRooms x = Worlds.at(night);
+    Due.text(x, 0, clouds);
+    x.tenant(km);
+    x.lease(0, lease);
+    return x.ofTenant(0, 5);
+  }
+
+  private static void looksAtEdges() {
+    for (int m = 0; m <= 9; m++) {
+      for (int night = 0; night < 4; night++) {
+        int want = m > 2 || night % 3 == m ? 1 : 0;
+        due.is("a POET of " + m + " in " + night, looksIn(10 + m, 0, night, "0"), want);
+        due.is("a SHARER of " + m + " in " + night, looksIn(40 + m, 0, night, "0"), want);
+      }
+    }
+    due.is("a TENANT who holds nothing, in clouds", looksIn(9, 0, 0, "1"), 1);
+    due.is("a WIDOWER of no LEASE", looksIn(20, 0, 8, "0"), 0);
+    due.is("a WIDOWER, none LIT", looksIn(20, 0x7F7F7F, 1, "0"), 0);
+    due.is("a WIDOWER, the last column LIT", looksIn(20, 1 << 23, 1, "0"), 1);
+    due.is("a WIDOWER, LIT behind clouds", looksIn(20, 1 << 23, 1, "1"), 1);
+    due.is("a WIDOWER, the first column LIT", looksIn(20, 1, 15, "0"), 1);
+    due.is("a WIDOWER, PHASE 0", looksIn(20, 0xFFFFFF, 16, "0"), 0);
+    due.is("a GHOST, all LIT", looksIn(50, 0xFFFFFF, 8, "0"), 0);
+    for (int night = 0; night < 3; night++) {
+      due.is("a BANKER in " + night, looksIn(33, 0, night, "0"), 1 - night % 2);
+      due.is("an AGENT in " + night, looksIn(63, 0, night, "0"), 1 - night % 2);
+    }
+    due.is("a BANKER in the last NIGHT", looksIn(30, 0, 9999, "0"), 0);
+    due.is("a POET in the last NIGHT", looksIn(10, 0, 9999, "0"), 1);
+  }
+
+  /** What one of a KIND and m owes for one CELL of this rent. */
+  private static int owesBy(int km, int rent) {
+    MoonRooms x = new MoonRooms();
+    Due.text(x, 1, "" + rent);
+    x.tenant(km);
+    x.lease(0, 1 << 12);
+    return x.ofTenant(0, 7);
+  }
+
+  private static void owesCut() {
+    due.is("a TENANT by 99", owesBy(9, 99), 99);
+    due.is("a POET by 0", owesBy(10, 0), 0);
+    due.is("a POET by 1", owesBy(10, 1), 0);
+    due.is("a POET by 3", owesBy(19, 3), 1);
+    due.is("a SHARER alone by 3", owesBy(49, 3), 1);
+    due.is("a WIDOWER of 0 by 7", owesBy(20, 7), 7);
+    due.is("a WIDOWER of 9 by 7", owesBy(29, 7), 16);
+    due.is("a GHOST of 9 by 0", owesBy(59, 0), 9);
+    due.is("a BANKER by 9", owesBy(39, 9), 9);
+    due.is("a BANKER by 10", owesBy(39, 10), 9);
+    due.is("a BANKER by 19", owesBy(39, 19), 18);
+    due.is("an AGENT of 9 by 9", owesBy(69, 9), 0);
+    due.is("an AGENT of 9 by 10", owesBy(69, 10), 0);
+    due.is("an AGENT of 9 by 11", owesBy(69, 11), 1);
+    due.is("an AGENT of 9 by 8, 0 at least", owesBy(69, 8), 0);
+    due.is("an AGENT of 1 by 0, 0 at least", owesBy(61, 0), 0);
+    MoonRooms x = new MoonRooms();
+    Due.text(x, 1, "99");
+    x.tenant(0);
+    x.lease(0, 0xFFFFFF);
+    due.is("together for all CELLS, beyond 99", x.ofTenant(0, 7), 24 * 99);
+    Due.text(x, 1, "9");
+    x.lease(0, 0x30);
+    x.become(0, 30);
+    due.is("a tenth of all, not of each", x.ofTenant(0, 7), 17);
+    Due.text(x, 1, "q*5");
+    x.tenant(20);
+    x.lease(1, 0x11);
+    due.is("by how many hold each CELL", x.ofTenant(1, 7), 10 + 5);
+  }
+
+  /** What a SHARER owes for one CELL of this rent, with so many others there. */
+  private static int sharesBy(int rent, int others) {
+    MoonRooms x = new MoonRooms();
+    Due.text(x, 1, "" + rent);
+    x.tenant(40);
+    for (int i = 0; i < others; i++) {
+      x.tenant(i * 10);
+      x.lease(i + 1, 1 << 12 | 1 << i);
+    }
+    x.lease(0, 1 << 12);
+    return x.ofTenant(0, 7);
+  }
+
+  private static void sharersCut() {
+    due.is("7 with none", sharesBy(7, 0), 3);
+    due.is("7 with one", sharesBy(7, 1), 1);
+    due.is("7 with two", sharesBy(7, 2), 1);
+    due.is("7 with three", sharesBy(7, 3), 0);
+    due.is("99 with five", sharesBy(99, 5), 8);
+    due.is("95 with five", sharesBy(95, 5), 7);
+    MoonRooms x = new MoonRooms();
+    Due.text(x, 1, "8");
+    x.tenant(40);
+    x.tenant(20);
+    x.lease(0, 1);
+    x.lease(1, 1);
+    due.is("with one who holds it", x.ofTenant(0, 7), 2);
+    x.purse(0, 100);
+    x.purse(1, -1);
+    x.nights(4);
+    due.is("who is EVICTED and holds none", x.ofTenant(0, 7), 4);
   }
 
   private static void owes() {
@@ -240,5 +356,9 @@ public final class TenantsTest {
     due.is("evicted", x.ofTenant(0, 4), 0);
     due.is("pardon again", x.pardon(0), Due.STATE);
     due.is("pardon the other", x.pardon(1), 0);
+    x.lease(0, 1);
+    due.is("one pardoned owes again", x.nights(4), 1);
+    due.is("from PURSE 0", x.ofTenant(0, 3), 100000 - 1);
+    due.is("one pardoned that owes nothing stays", x.ofTenant(1, 4), 0);
   }
 }
