@@ -460,6 +460,10 @@ public final class SheetsTest {
     due.is("an empty tape", x.count(7), 0);
     due.is("none wait", x.count(8), 0);
     due.is("z", x.count(10), 1);
+    x.tenant(0);
+    x.purse(0, -1);
+    due.is("one is EVICTED", x.nights(4), 1);
+    due.is("restore", x.restore(), 0);
     for (int i = 0; i < 6; i++) {
       due.is("room for six", x.tenant(i), i);
       due.is("as at first", x.ofTenant(i, 2) + x.ofTenant(i, 3) + x.ofTenant(i, 4), 100000);

@@ -6,6 +6,7 @@ public final class TenantsTest {
     newObject();
     cells();
     phases();
+    phasesByNight();
     weather();
     takingIn();
     looks();
@@ -83,6 +84,21 @@ public final class TenantsTest {
     due.is("lit(16)", x.lit(16), Due.BEYOND);
   }
 
+  private static void phasesByNight() {
+    for (int night : new int[] {0, 1, 7, 8, 9, 15, 16, 17, 24, 31, 32, 33, 9983, 9984, 9999}) {
+      MoonRooms x = Worlds.at(night);
+      int p = night % 16;
+      int columns = p <= 8 ? p : 16 - p;
+      due.is("PHASE in " + night, x.count(2), p);
+      due.is("SEEN in " + night, x.count(5), 3 * columns);
+      for (int cell = 0; cell < 24; cell++) {
+        int on = p <= 8 ? cell % 8 > 7 - p ? 1 : 0 : cell % 8 < 16 - p ? 1 : 0;
+        due.is(cell + " LIT in " + night, x.ofCell(cell, 0), on);
+        due.is(cell + " SEEN in " + night, x.ofCell(cell, 1), on);
+      }
+    }
+  }
+
   private static void weather() {
     MoonRooms x = new MoonRooms();
     due.is("weather(9)", x.weather(9), 0);
@@ -136,6 +152,13 @@ public final class TenantsTest {
     due.is("what is seen", x.ofTenant(2, 6), 128);
     x.lease(2, 255);
     due.is("what is seen of more", x.ofTenant(2, 6), 128 + 64 + 32);
+    Due.text(x, 0, "p=3");
+    due.is("nothing is seen behind clouds", x.ofTenant(2, 6), 0);
+    due.is("and it looks, as something is LIT", x.ofTenant(2, 5), 1);
+    Due.text(x, 0, "p=2");
+    due.is("what is seen of more", x.ofTenant(2, 6), 128 + 64 + 32);
+    x.lease(2, 31);
+    due.is("nothing is seen of what isn't LIT", x.ofTenant(2, 6), 0);
   }
 
   private static int looksIn(int km, int lease, int night, String clouds) {
@@ -191,6 +214,10 @@ public final class TenantsTest {
     due.is("a BANKER by 9", owesBy(39, 9), 9);
     due.is("a BANKER by 10", owesBy(39, 10), 9);
     due.is("a BANKER by 19", owesBy(39, 19), 18);
+    due.is("an AGENT of 0 by 9", owesBy(60, 9), 9);
+    due.is("an AGENT of 0 by 10", owesBy(60, 10), 9);
+    due.is("an AGENT of 2 by 19", owesBy(62, 19), 16);
+    due.is("an AGENT of 9 by 99", owesBy(69, 99), 81);
     due.is("an AGENT of 9 by 9", owesBy(69, 9), 0);
     due.is("an AGENT of 9 by 10", owesBy(69, 10), 0);
     due.is("an AGENT of 9 by 11", owesBy(69, 11), 1);

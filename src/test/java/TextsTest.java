@@ -96,7 +96,16 @@ public final class TextsTest {
     value("!(0-1)", 0);
     value("0&0|1", 1);
     value("1|1&0", 1);
+    value("3<2", 0);
+    value("2>3", 0);
+    value("2=3", 0);
     value("1<2&2<3", 1);
+    value("(0|3)*5", 5);
+    value("(1&0|1)*3", 3);
+    value("(2&3)*5", 5);
+    value("(1<2)*5", 5);
+    value("(1+2)*5", 15);
+    value("!(0|0)", 1);
     value("1&2=2", 1);
     value("0-1<0", 1);
     value("0>0-1", 1);
@@ -163,6 +172,9 @@ public final class TextsTest {
     value("(((((1)))))+(((((2)))))", 3);
     value("((((!n))))", 0);
     value("!!!!!0+!!!!!0*!!!!!1", 1);
+    // as much as 50 bytes can hold back: four levels that each wait for their last number
+    value("0|1&1<1+1*(0|1&1<1+1*(0|1&1<1+1*(0|1&1<1+1*(2))))", 1);
+    value("1-(2-(3-(4-(5-(6)))))", 1-(2-(3-(4-(5-6)))));
     fault(0, "(((((!1)))))", 5);
     fault(0, "!!!!!(1)", 5);
     fault(0, "!!!!!!", 5);
